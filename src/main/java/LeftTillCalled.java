@@ -830,13 +830,12 @@ public final class LeftTillCalled {
 
         /** -1: not within so many days. */
         int daysTillGone(int thing, int most) {
-            for (int n = 0; n <= most; n++) {
-                if (!isThere(thing)) {
-                    return n;
-                }
+            int n = 0;
+            while (n < most && isThere(thing)) {
                 goDay();
+                n++;
             }
-            return -1;
+            return n > most || isThere(thing) ? -1 : n;
         }
 
         /** As days go nobody leaves a thing again: whom it is with first, it stays with. */
