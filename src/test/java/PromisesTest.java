@@ -242,7 +242,17 @@ public final class PromisesTest {
         x.set(REGIMENT, 4, 99);
         due("MOUNTS of a cheap one", x.of(REGIMENT, 6), 2);
         due("LEFT", x.of(0, 2), 0);
-        due("no such thing", x.of(6, 0), BEYOND);
+        x.days(1);
+        left(x, WIFE, 0, 1, 9000);
+        left(x, GLOVE, 0, 1, 9000);
+        x.days(8);
+        due("MOUNTS of a later wife", x.of(6, 6), 6);
+        due("MOUNTS of a later glove", x.of(7, 6), 1);
+        x.days(1);
+        due("MOUNTS of a later glove then", x.of(7, 6), 0);
+        x.days(1);
+        due("MOUNTS of a later wife then", x.of(6, 6), 7);
+        due("no such thing", x.of(8, 0), BEYOND);
         due("no such thing", x.of(-1, 0), BEYOND);
         due("no such what", x.of(0, 8), BEYOND);
         due("no such what", x.of(0, -1), BEYOND);
@@ -603,17 +613,27 @@ public final class PromisesTest {
         due("for sale", x.now(5), 1 + 4);
         x.person(1, 0, 20);
         x.person(5, 0, 999999);
-        due("MEANS together", x.now(4), 20 + 999999);
+        x.person(0, 0, 3);
+        due("MEANS together", x.now(4), 3 + 20 + 999999);
+        x.person(0, 0, 0);
         x.call(4);
         x.set(4, 3, 500);
         due("TAKEN", x.now(1), 7);
         due("there then", x.now(2), 15);
         due("DUE together then", x.now(3), 102 + 100 + 51 + 999999);
         due("for sale then", x.now(5), 1 + 4);
+        x.set(0, 3, 100);
+        due("for sale at last", x.now(5), 4);
         x.person(5, 0, 0);
         x.days(2);
         due("DAY then", x.now(0), 2);
         due("MEANS together then", x.now(4), 13);
+        left(x, GLOVE, 0, 3, 9);
+        left(x, GLOVE, 0, 4, 9);
+        left(x, GLOVE, 0, 5, 9);
+        due("there, of eight", x.now(2), 255 - 16);
+        due("for sale, of eight", x.now(5), 1 + 2 + 4 + 128);
+        due("DUE together, of eight", x.now(3), 104 + 104 + 52 + 999999 + 3 + 4 + 5);
         due("no such what", x.now(6), BEYOND);
         due("no such what", x.now(-1), BEYOND);
         due("findings", x.status(0), 2);
@@ -858,6 +878,9 @@ public final class PromisesTest {
         due("who can pay", x.label(0), 5);
         x.person(3, 0, 53);
         due("of several the least", x.label(0), 3);
+        x.person(0, 0, 53);
+        due("of several the least", x.label(0), 0);
+        x.person(0, 0, 0);
         x.person(3, 0, 52);
         means(x, 1, 50, 4, 0);
         due("the soonest", x.label(0), 1);
@@ -908,6 +931,12 @@ public final class PromisesTest {
         x.call(0);
         means(x, 1, 12, 20, 0);
         due("one that is WITH him is left out", x.first(1, 1), 2);
+        for (int t = 3; t < 8; t++) {
+            left(x, PARCEL, 5, 10 + t, 9999);
+        }
+        x.set(7, 3, 4);
+        x.person(5, 0, 5);
+        due("the last of eight", x.first(5, 1), 8);
         due("no such person", x.first(6, 1), BEYOND);
         due("no such person", x.first(-1, 1), BEYOND);
         due("too few", x.first(0, 0), BEYOND);
@@ -961,6 +990,10 @@ public final class PromisesTest {
         due("then", x.most(2), 4);
         due("at last", x.most(100), 4);
         due("nothing changes", x.now(2), 7);
+        x.set(0, 1, 1);
+        x.set(1, 1, 1);
+        x.person(1, 0, 50);
+        due("another at last", x.most(100), 1);
         due("too few", x.most(-1), BEYOND);
         due("too many", x.most(101), BEYOND);
         due("findings", x.status(0), 2);
@@ -1040,6 +1073,10 @@ public final class PromisesTest {
         due("MEANS", x.personOf(3, 0), 6);
         due("EARNS", x.personOf(3, 1), 1);
         due("SPENDS", x.personOf(3, 2), 0);
+        due("nothing at all", told(x, "means 0 0 earns 0 spends 0"), 1);
+        due("MEANS", x.personOf(0, 0), 0);
+        due("EARNS", x.personOf(0, 1), 0);
+        due("SPENDS", x.personOf(0, 2), 0);
         due("zeros in front", told(x, "means 0000000000000000000005 000000000000000000000012"), 1);
         due("MEANS", x.personOf(5, 0), 12);
         due("no findings", x.status(-1), 0);
@@ -1054,7 +1091,8 @@ public final class PromisesTest {
             "wife 5", "means", "means 1", "means 6 1", "means 1 10000", "means 1 20 spends 4 earns 3",
             "means 1 2 earns 1000", "means 1 2 spends 1000", "means 1 2 earns", "means 1 2 for 3", "means wife",
             "wife\tfor 1", "for 1", "parcel99", "glovefor1", "wife.", "wife \u00ff", "5", "wife; means 1 2 3",
-            "means 1 2; means 7 @", "lady, wife", "parcels", "parce", "wife; due 3", "means 1;wife"
+            "means 1 2; means 7 @", "lady, wife", "parcels", "parce", "wife; due 3", "means 1;wife",
+            "wifez", "zwife", "xife", "{wife", "wife for 5:", "wife for /5", "wife`", "ladx", "lbdy"
         };
         int[] places = {
             0, 3, 5, 6, 0, 5, 0, 0, 5, 8,
@@ -1063,7 +1101,8 @@ public final class PromisesTest {
             5, 5, 7, 6, 8, 20,
             16, 17, 15, 10, 6,
             4, 0, 6, 0, 4, 5, 0, 16,
-            17, 4, 0, 0, 6, 7
+            17, 4, 0, 0, 6, 7,
+            0, 0, 0, 0, 10, 9, 4, 0, 0
         };
         LeftTillCalled x = new LeftTillCalled();
         for (int i = 0; i < texts.length; i++) {
@@ -1107,8 +1146,10 @@ public final class PromisesTest {
         due("8 bits", x.sheet(0, 8, 40), 40);
         due("16 bits", x.sheet(1, 16, 1), 1);
         due("64 bits", x.sheet(3, 64, 0), 0);
+        x.write(0, 0, 6);
         x.write(0, 39, 7);
         due("anew", x.sheet(0, 8, 40), 40);
+        due("all 0", x.write(0, 0, 0), 0);
         due("all 0", x.write(0, 39, 9), 0);
         int[][] beyond = {
             {-1, 8, 1}, {4, 8, 1}, {GREATEST, 8, 1}, {0, 1, 1}, {0, 32, 1}, {0, -8, 1}, {0, 9, -1}, {4, 8, -1},
@@ -1255,6 +1296,9 @@ public final class PromisesTest {
         due("nothing changes", x.of(0, 3), 254);
         x.sheet(1, 8, 0);
         due("none", x.book(1, 0), 0);
+        x.sheet(1, 16, 40);
+        due("as many as there may be", x.book(1, 0), 40);
+        due("the last", x.write(1, 39, 0), 254 + 39 + 20);
         due("no such sheet", x.book(4, 0), BEYOND);
         due("no such sheet", x.book(-1, 0), BEYOND);
         due("MISSING", x.book(2, 0), MISSING);
@@ -1385,6 +1429,11 @@ public final class PromisesTest {
         due("bytes", x.count(1), 3);
         due("there", x.count(2), 2);
         due("WORTH together", x.count(3), 10022);
+        for (int i = 3; i < 8; i++) {
+            x.thing(WIFE, 0);
+        }
+        due("WORTH together, of eight", x.count(3), 10522);
+        due("there, of eight", x.count(2), 7);
         due("no such what", x.count(4), BEYOND);
         due("no such what", x.count(-1), BEYOND);
         due("findings", x.status(0), 2);
