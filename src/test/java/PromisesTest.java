@@ -1092,7 +1092,9 @@ public final class PromisesTest {
             "means 1 2 earns 1000", "means 1 2 spends 1000", "means 1 2 earns", "means 1 2 for 3", "means wife",
             "wife\tfor 1", "for 1", "parcel99", "glovefor1", "wife.", "wife \u00ff", "5", "wife; means 1 2 3",
             "means 1 2; means 7 @", "lady, wife", "parcels", "parce", "wife; due 3", "means 1;wife",
-            "wifez", "zwife", "xife", "{wife", "wife for 5:", "wife for /5", "wife`", "ladx", "lbdy"
+            "wifez", "zwife", "xife", "{wife", "wife for 5:", "wife for /5", "wife`", "ladx", "lbdy",
+            "wife due", "wife worth", "wife due;lady", "wife worth;lady", "wife for;lady", "means 1 2 spends",
+            "means 1 2 spends;lady", "means 1 2 earns;lady", "means;lady", "means 1 ;lady"
         };
         int[] places = {
             0, 3, 5, 6, 0, 5, 0, 0, 5, 8,
@@ -1102,7 +1104,9 @@ public final class PromisesTest {
             16, 17, 15, 10, 6,
             4, 0, 6, 0, 4, 5, 0, 16,
             17, 4, 0, 0, 6, 7,
-            0, 0, 0, 0, 10, 9, 4, 0, 0
+            0, 0, 0, 0, 10, 9, 4, 0, 0,
+            8, 10, 8, 10, 8, 16,
+            16, 15, 5, 8
         };
         LeftTillCalled x = new LeftTillCalled();
         for (int i = 0; i < texts.length; i++) {
