@@ -498,6 +498,12 @@ public final class AheadTest {
             x.call(t);
             B.due("called from " + t + " on", x.most(0), most[t]);
         }
+        for (int p = 0; p < 6; p++) {
+            LeftTillCalled y = poor();
+            left(y, PARCEL, p, 0, NO_SALE);
+            y.call(0);
+            B.due("one, WITH " + p, y.most(0), p);
+        }
         B.due("3 of 5, 3 of 4, 2 of 3", x.most(0), 4);
         B.due("so on", x.most(100), 4);
     }

@@ -52,7 +52,9 @@ public final class FindingsTest {
         B.argument(RICH, 2, 0, 999999, "person", 2, 0, 5);
         B.argument(RICH, 2, 0, 999, "person", 2, 1, 5);
         B.argument(RICH, 2, 0, 999, "person", 2, 2, 5);
-        B.refused(RICH, BEYOND, "person", 2, 3, 0);
+        for (int what : new int[] {LEAST, -1, 3, 4, GREATEST}) {
+            B.refused(RICH, BEYOND, "person", 2, what, 0);
+        }
         B.refused(RICH, BEYOND, "person", -1, -1, -1);
         B.refused(RICH, BEYOND, "person", 6, 3, 1000000);
         B.sentence("3: Of one: what 0 to 4. BEYOND.");
@@ -81,6 +83,7 @@ public final class FindingsTest {
         B.argument(RICH, 2, 0, 9999, "set", 2, 4, 3);
         for (int what : new int[] {LEAST, -1, 0, 2, 5, 6, 7, GREATEST}) {
             B.refused(RICH, BEYOND, "set", 2, what, 3);
+            B.refused(RICH, BEYOND, "set", 2, what, 0);
         }
         B.refused(FRESH, BEYOND, "set", 0, 1, 0);
         B.refused(RICH, BEYOND, "set", 5, 0, -1);
@@ -137,6 +140,13 @@ public final class FindingsTest {
         }
         for (int k = 1; k < 6; k++) {
             B.refused(FULL_ROOM, KIND, "as", 7, k);
+        }
+        int[][] is = {{0, 3}, {0, 0}, {1, 1}, {1, 0}, {2, 2}, {2, 0}, {3, 4}, {3, 1}, {3, 0}, {4, 5}, {4, 2}, {4, 0}};
+        for (int[] t : is) {
+            LeftTillCalled x = Bounds.rich();
+            x.set(t[0], 3, 700 + t[0]);
+            B.due("as(" + t[0] + ", " + t[1] + ")", x.as(t[0], t[1]), 700 + t[0]);
+            B.due("KIND counted", x.status(2), 0);
         }
         B.sentence("8: BEYOND is asked ahead of KIND");
         B.refused(RICH, BEYOND, "as", 5, 1);
