@@ -3,7 +3,9 @@ import java.lang.reflect.Modifier;
 import java.util.Arrays;
 import java.util.Comparator;
 import java.util.List;
+import java.util.Map;
 import java.util.Random;
+import java.util.TreeMap;
 import java.util.stream.Collectors;
 
 /**
@@ -11,7 +13,7 @@ import java.util.stream.Collectors;
  * the order, no call throws and each answers as Model does. A run is as long as an object is used.
  */
 public final class EdgesTest {
-    private static final int RUNS = 400;
+    private static final int RUNS = 4000;
     private static final int CALLS = 512;
     private static final int[] SMALL = {-1, 0, 0, 1, 1, 2, 3, 4, 5, 5, 6, 7, 8};
     private static final int[] ENDS = {
@@ -24,16 +26,18 @@ public final class EdgesTest {
     private static final int[] WORDS = {
         0x77696665, 0x6c616479, 0x3b3b3b3b, 0x20202020, 0x20666f72, 0x20647565, 0x20312032, 0x6d65616e, 0x73203120
     };
-    /** Of the model each of these costs a thousand stations. */
-    private static final List<String> DEAR = List.of("enough", "worth");
+    /** A run in which all is refused shows little: so often each call must have answered no finding. */
+    private static final int ANSWERED_AT_LEAST = 100;
+    private static final Map<String, Integer> ANSWERED = new TreeMap<>();
 
     private final Random random;
     private final LeftTillCalled x = new LeftTillCalled();
     private final Model model = new Model();
     private final StringBuilder run = new StringBuilder();
 
-    private EdgesTest(long seed) {
-        random = new Random(seed);
+    /** Seeds that are neighbours begin alike, so the numbers of runs are spread over all seeds. */
+    private EdgesTest(int run) {
+        random = new Random(run * 0x9e3779b97f4a7c15L);
     }
 
     public static void main(String[] args) throws Exception {
@@ -49,14 +53,30 @@ public final class EdgesTest {
             }
         }
         System.out.println("class and model agree at the edges in " + RUNS + " runs");
+        for (Method m : calls) {
+            int answered = ANSWERED.getOrDefault(m.getName(), 0);
+            if (answered < ANSWERED_AT_LEAST) {
+                System.out.println(m.getName() + " answered no finding only " + answered + " times");
+                System.exit(1);
+            }
+        }
+    }
+
+    /** Two sheets seldom come to be alike by themselves. */
+    private boolean beginsAlike() {
+        boolean same = true;
+        for (int s = 0; s < 4; s++) {
+            same &= x.sheet(s, 16, 2 + 2 * s) == model.sheet(s, 16, 2 + 2 * s);
+        }
+        return same;
     }
 
     private boolean agrees(List<Method> calls) throws Exception {
-        for (int i = 0; i < CALLS; i++) {
+        if (random.nextBoolean() && !beginsAlike()) {
+            return false;
+        }
+        for (int i = 4; i < CALLS; i++) {
             Method m = calls.get(random.nextInt(calls.size()));
-            if (DEAR.contains(m.getName()) && random.nextInt(4) != 0) {
-                continue;
-            }
             Object[] given = given(m);
             Object got = m.invoke(x, given);
             Method same = Model.class.getDeclaredMethod(m.getName(), m.getParameterTypes());
@@ -66,6 +86,9 @@ public final class EdgesTest {
             if (((Number) got).longValue() != ((Number) want).longValue()) {
                 run.append("   but the model says ").append(want).append('\n');
                 return false;
+            }
+            if (((Number) got).longValue() >= -1000000000) {
+                ANSWERED.merge(m.getName(), 1, Integer::sum);
             }
         }
         return true;
@@ -82,7 +105,9 @@ public final class EdgesTest {
             } else if (m.getName().equals("sheet") && i == 1) {
                 all[i] = new int[] {0, 8, 16, 64, 8, 16, 64, 32}[random.nextInt(8)];
             } else {
-                all[i] = random.nextInt(3) == 0 ? ENDS[random.nextInt(ENDS.length)] : SMALL[random.nextInt(SMALL.length)];
+                // The more arguments, the seldomer a wide one, or hardly a call would get past its findings.
+                boolean isWide = random.nextInt(types.length > 3 ? 12 : 3) == 0;
+                all[i] = isWide ? ENDS[random.nextInt(ENDS.length)] : SMALL[random.nextInt(SMALL.length)];
             }
         }
         return all;

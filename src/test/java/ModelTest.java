@@ -1,9 +1,16 @@
+import java.lang.reflect.Method;
+import java.lang.reflect.Modifier;
+import java.util.Map;
 import java.util.Random;
+import java.util.TreeMap;
 
 /** Long runs of calls, by a seed, on the class and on Model: every answer must be the same. */
 public final class ModelTest {
-    private static final int RUNS = 500;
-    private static final int CALLS = 500;
+    private static final int RUNS = 1000;
+    /** An object is used for at most 512 calls; the longest text and what is asked behind it make 123. */
+    private static final int CALLS = 512 - 123;
+    /** A run that is never made agrees with everything: each call must have been asked so often. */
+    private static final int ASKED_AT_LEAST = 200;
     private static final String[] WORDS = {
         "parcel", "lady", "glove", "regiment", "wife", "hatbox", "means", "for", "due", "worth", "earns", "spends"
     };
@@ -12,10 +19,15 @@ public final class ModelTest {
     private final LeftTillCalled x = new LeftTillCalled();
     private final Model m = new Model();
     private final StringBuilder told = new StringBuilder();
+    private static final Map<String, Integer> ASKED = new TreeMap<>();
+    private final boolean isTight;
+    private int made = 0;
     private boolean wrong = false;
 
-    private ModelTest(long seed) {
-        random = new Random(seed);
+    /** Seeds that are neighbours begin alike, so the numbers of runs are spread over all seeds. */
+    private ModelTest(int run) {
+        random = new Random(run * 0x9e3779b97f4a7c15L);
+        isTight = run % 2 == 0;
     }
 
     public static void main(String[] args) {
@@ -29,18 +41,30 @@ public final class ModelTest {
             }
         }
         System.out.println(wrongRuns == 0 ? "class and model agree in " + RUNS + " runs" : "they differ");
-        if (wrongRuns != 0) {
+        if (wrongRuns != 0 || !isAllAsked()) {
             System.exit(1);
         }
     }
 
+    private static boolean isAllAsked() {
+        boolean all = true;
+        for (Method m : LeftTillCalled.class.getDeclaredMethods()) {
+            int asked = ASKED.getOrDefault(m.getName(), 0);
+            if (Modifier.isPublic(m.getModifiers()) && asked < ASKED_AT_LEAST) {
+                System.out.println(m.getName() + " was asked only " + asked + " times");
+                all = false;
+            }
+        }
+        return all;
+    }
+
     private void go() {
-        if (random.nextBoolean()) {
+        if (isTight) {
             goTight();
             return;
         }
         int style = random.nextInt(4);
-        for (int i = 0; i < CALLS && !wrong; i++) {
+        for (int i = 0; i < CALLS && made < CALLS && !wrong; i++) {
             if (i < 20 || random.nextInt(3) == 0) {
                 change(style);
             } else if (random.nextInt(12) == 0) {
@@ -90,6 +114,8 @@ public final class ModelTest {
     }
 
     private void is(String call, long got, long want) {
+        made++;
+        ASKED.merge(call.substring(0, call.indexOf('(')), 1, Integer::sum);
         told.append(call).append(" answered ").append(got).append('\n');
         if (got != want) {
             told.append("   but the model says ").append(want).append('\n');

@@ -1110,11 +1110,12 @@ public final class PromisesTest {
         };
         LeftTillCalled x = new LeftTillCalled();
         for (int i = 0; i < texts.length; i++) {
+            x = new LeftTillCalled();
             due("'" + texts[i] + "'", told(x, texts[i]), -1 - places[i]);
             due("THE TAPE is empty then", x.count(1), 0);
+            due("no thing came", x.count(0), 0);
+            due("no findings", x.status(-1), 0);
         }
-        due("no thing came", x.count(0), 0);
-        due("no findings", x.status(-1), 0);
         String[] good = {"glove for1due2worth3", "wife for 5", " wife ", "means 5 9999", "wife;lady ;glove; hatbox"};
         int[] items = {1, 1, 1, 1, 4};
         for (int i = 0; i < good.length; i++) {
