@@ -57,8 +57,8 @@ public final class LeftTillCalled {
         ahead = new Station();
         kept = new Station();
         isKept = false;
-        tape = new Tape();
-        text = new Text(tape);
+        text = new Text();
+        tape = text.tape;
         sheets = new Sheet[SHEETS];
         for (int s = 0; s < SHEETS; s++) {
             sheets[s] = new Sheet();
@@ -936,8 +936,8 @@ public final class LeftTillCalled {
         private int place;
         private int number;
 
-        Text(Tape tape) {
-            this.tape = tape;
+        Text() {
+            tape = new Tape();
             at = 0;
             token = END;
             place = 0;

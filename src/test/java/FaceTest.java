@@ -95,6 +95,9 @@ public final class FaceTest {
     }
 
     private static void look(Class<?> c, Set<String> names) {
+        for (Constructor<?> made : c.getDeclaredConstructors()) {
+            holds(made.getParameterCount() == 0, c + " is handed nothing of the object that makes it");
+        }
         int fields = 0;
         for (Field f : c.getDeclaredFields()) {
             boolean isStatic = Modifier.isStatic(f.getModifiers());
